@@ -18,6 +18,7 @@ public final class DealsTest {
         fullDealStays();
         dealFillsTheLastRoom();
         fullCountsOnlyRealEvents();
+        fullCountsEventsOfStepsBefore();
         CHECK.end("DealsTest");
     }
 
@@ -280,5 +281,17 @@ public final class DealsTest {
         shelf.step(true, 50, false, 0);
         CHECK.due("deal of no event", shelf.deal(), 1);
         CHECK.due("REVISION", shelf.count(0), 300);
+    }
+
+    private static void fullCountsEventsOfStepsBefore() {
+        RevisionShelf shelf = withEvents(299);
+        shelf.step(true, 50, true, 0);
+        shelf.step(true, 50, false, 0);
+        CHECK.refuses("set and removed are two events", Check.FULL, shelf, shelf::deal);
+        RevisionShelf other = withEvents(298);
+        other.step(true, 0, false, 0);
+        other.step(true, 0, true, 0);
+        other.step(true, 0, false, 0);
+        CHECK.refuses("removed, set and removed are three", Check.FULL, other, other::deal);
     }
 }

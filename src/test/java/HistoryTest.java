@@ -8,6 +8,7 @@ public final class HistoryTest {
         compactKeepsWhatIs();
         eventsAreNumberedFromARevision();
         eventTellsWhatIsMissing();
+        eventsOfAFullStore();
         eventRefusesWhatIsBad();
         eventRefusesTheCompacted();
         countTellsEach();
@@ -96,6 +97,18 @@ public final class HistoryTest {
         CHECK.refuses("above the latest", Check.MISSING, shelf, () -> shelf.event(5, 0, 0));
         CHECK.refuses("far above", Check.MISSING, shelf, () -> shelf.event(Integer.MAX_VALUE, 0, 1));
         CHECK.refuses("above, number -1", Check.MISSING, shelf, () -> shelf.event(5, -1, 0));
+    }
+
+    private static void eventsOfAFullStore() {
+        RevisionShelf shelf = new RevisionShelf();
+        for (int i = 0; i < 300; i++) {
+            shelf.put(i, i);
+        }
+        CHECK.due("the last from 1", shelf.event(1, 299, 0), 299);
+        CHECK.due("the last from the latest", shelf.event(300, 0, 0), 299);
+        CHECK.refuses("behind the last", Check.MISSING, shelf, () -> shelf.event(1, 300, 0));
+        CHECK.refuses("from above the latest", Check.MISSING, shelf, () -> shelf.event(301, 0, 0));
+        CHECK.due("KEYS", shelf.count(6), 300);
     }
 
     private static void eventRefusesWhatIsBad() {

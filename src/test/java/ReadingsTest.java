@@ -9,6 +9,7 @@ public final class ReadingsTest {
         stateRefusesWhatIsBad();
         manyCountsWithin();
         keyIsNumberedAscending();
+        keysComeAscendingFromAnyOrder();
         keyTellsWhatIsMissing();
         readingsRefuseRevisions();
         readingsGoOnFromTheCompacted();
@@ -109,6 +110,21 @@ public final class ReadingsTest {
         shelf.put(Integer.MIN_VALUE, 1);
         CHECK.same("keys far apart", keys(shelf, Integer.MIN_VALUE, Integer.MAX_VALUE, 0),
                 "-2147483648 -8 3 5 2147483646 ");
+    }
+
+    /** 300 keys, so that the readings go through a store that is full. */
+    private static void keysComeAscendingFromAnyOrder() {
+        RevisionShelf shelf = new RevisionShelf();
+        for (int i = 0; i < 300; i++) {
+            shelf.put(i * 77 % 300, i);
+        }
+        CHECK.due("many of a full store", shelf.many(0, 300, 0), 300);
+        for (int i = 0; i < 100; i++) {
+            CHECK.due("key " + i, shelf.key(0, 300, 0, i * 3), i * 3);
+        }
+        CHECK.refuses("key 300", Check.MISSING, shelf, () -> shelf.key(0, 300, 0, 300));
+        CHECK.refuses("get of a full store", Check.MISSING, shelf, () -> shelf.get(300, 0));
+        CHECK.due("state of a full store", shelf.state(300, 0, 1), 0);
     }
 
     private static void keyTellsWhatIsMissing() {
