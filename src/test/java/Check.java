@@ -9,9 +9,15 @@ final class Check {
 
     private int checks = 0;
     private int wrong = 0;
+    private String sentence = "";
 
     interface Call {
         Object answer();
+    }
+
+    /** What follows is a test of these words of the document. */
+    void sentence(String where, String words) {
+        sentence = where + " '" + words + "': ";
     }
 
     void due(String what, long got, long want) {
@@ -22,7 +28,7 @@ final class Check {
         checks++;
         if (!got.equals(want)) {
             wrong++;
-            System.out.println(what + ": answered " + got + ", due is " + want);
+            System.out.println(sentence + what + ": answered " + got + ", due is " + want);
         }
     }
 
@@ -31,6 +37,13 @@ final class Check {
         String before = counts(shelf);
         same(what, answerOf(call), thrown(want));
         same(what + ", counts behind it", counts(shelf), before);
+    }
+
+    void refuses(String what, Class<? extends RuntimeException> want, RevisionShelf shelf, Runnable call) {
+        refuses(what, want, shelf, () -> {
+            call.run();
+            return "nothing";
+        });
     }
 
     static String answerOf(Call call) {

@@ -2,7 +2,7 @@ import java.util.Random;
 
 /** Runs of 512 calls from fixed seeds: each answer of the program is the plain model's. */
 public final class RandomRunsTest {
-    private static final int RUNS = 1500;
+    private static final int RUNS = 3000;
     private static final int CALLS = 512;
     private static final int[] EDGES = {
         Integer.MIN_VALUE, Integer.MIN_VALUE + 1, -1, 0, 1, Integer.MAX_VALUE - 1, Integer.MAX_VALUE};
@@ -12,6 +12,12 @@ public final class RandomRunsTest {
     private final int keys;
     /** How many of a hundred calls change the store: the more, the sooner it is full. */
     private final int changes;
+    /** So many calls put or remove at first: in some runs the store is almost full behind them. */
+    private final int plainChanges;
+    /** Of a hundred changes that could be deals: the fewer, the longer a deal's lists grow. */
+    private final int deals;
+    /** From this call on there are looks only, so that no wrong state goes unseen. */
+    private final int lastChange;
     private final RevisionShelf shelf = new RevisionShelf();
     private final PlainModel model = new PlainModel();
 
@@ -19,21 +25,25 @@ public final class RandomRunsTest {
         random = new Random(seed);
         keys = 1 + random.nextInt(random.nextBoolean() ? 6 : 60);
         changes = 30 + random.nextInt(65);
+        plainChanges = random.nextBoolean() ? 0 : 270 + random.nextInt(60);
+        deals = random.nextBoolean() ? 100 : random.nextInt(50);
+        lastChange = CALLS / 2 + random.nextInt(CALLS / 2);
     }
 
     public static void main(String[] args) {
         for (int seed = 0; seed < RUNS; seed++) {
             RandomRunsTest run = new RandomRunsTest(seed);
             for (int call = 0; call < CALLS; call++) {
-                run.callBoth("seed " + seed + ", call " + call);
+                run.callBoth("seed " + seed + ", call " + call, call);
             }
-            run.compareWhole("seed " + seed + " at its end");
         }
         CHECK.end("RandomRunsTest");
     }
 
-    private void callBoth(String where) {
-        if (random.nextInt(100) < changes) {
+    private void callBoth(String where, int call) {
+        if (call < plainChanges) {
+            putOrRemove(where, someKey(), someValue(), random.nextInt(5) > 0);
+        } else if (call < lastChange && random.nextInt(100) < changes) {
             change(where);
         } else {
             look(where);
@@ -72,9 +82,8 @@ public final class RandomRunsTest {
         long value = someValue();
         boolean yes = random.nextBoolean();
         switch (random.nextInt(20)) {
-            case 0, 1, 2, 3 -> same(where, "put", () -> shelf.put(key, value), () -> model.put(key, value));
-            case 4, 5, 6 -> same(where, "remove", () -> shelf.remove(key), () -> model.remove(key));
-            case 7, 8, 9 -> test(where, key, value);
+            case 0, 1, 2, 3, 4, 5 -> putOrRemove(where, key, value, yes);
+            case 6, 7, 8, 9 -> test(where, key, value);
             case 10, 11, 12, 13, 14, 15, 16 -> {
                 boolean set = random.nextInt(5) < 3;
                 same(where, "step", () -> {
@@ -85,8 +94,20 @@ public final class RandomRunsTest {
                     return 0;
                 });
             }
-            case 17, 18 -> same(where, "deal", shelf::deal, model::deal);
+            case 17, 18 -> {
+                if (random.nextInt(100) < deals) {
+                    same(where, "deal", shelf::deal, model::deal);
+                }
+            }
             default -> compact(where);
+        }
+    }
+
+    private void putOrRemove(String where, int key, long value, boolean put) {
+        if (put) {
+            same(where, "put", () -> shelf.put(key, value), () -> model.put(key, value));
+        } else {
+            same(where, "remove", () -> shelf.remove(key), () -> model.remove(key));
         }
     }
 
@@ -137,37 +158,6 @@ public final class RandomRunsTest {
                 int what = within(-1, 7);
                 same(where, "count", () -> shelf.count(what), () -> model.count(what));
             }
-        }
-    }
-
-    /** All that can be read, so that no wrong state goes unseen for want of a look at it. */
-    private void compareWhole(String where) {
-        for (int what = 0; what <= 6; what++) {
-            CHECK.due(where + ", count " + what, shelf.count(what), model.count(what));
-        }
-        for (int at = 0; at <= model.count(0) + 1; at++) {
-            compareRevision(where + ", revision " + at, at);
-        }
-        int from = model.count(1) + 1;
-        for (int i = 0; i <= model.count(2); i++) {
-            int number = i;
-            for (int what = 0; what <= 2; what++) {
-                int of = what;
-                same(where, "event", () -> shelf.event(from, number, of), () -> model.event(from, number, of));
-            }
-        }
-    }
-
-    private void compareRevision(String where, int at) {
-        int low = Integer.MIN_VALUE;
-        int high = Integer.MAX_VALUE;
-        same(where, "many", () -> shelf.many(low, high, at), () -> model.many(low, high, at));
-        for (int i = 0; i <= keys; i += 3) {
-            int number = i;
-            int key = i - keys / 2;
-            same(where, "key", () -> shelf.key(low, high, at, number), () -> model.key(low, high, at, number));
-            same(where, "get", () -> shelf.get(key, at), () -> model.get(key, at));
-            same(where, "state", () -> shelf.state(key, at, 1), () -> model.state(key, at, 1));
         }
     }
 }
